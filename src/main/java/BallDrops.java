@@ -17,6 +17,7 @@ public final class BallDrops {
     private static final int MOST_OFF = 600;
     private static final int MOST_RATE = 20;
     private static final int MOST_CARE = 9;
+    private static final int FIRST_CARE = 2;
     private static final int MOST_SLOW = 50;
     private static final int MOST_SLIP = 60;
     private static final int MOST_CABLES = 30;
@@ -53,7 +54,7 @@ public final class BallDrops {
     private final int[] placeLeast = new int[CLOCKS];
     private final int[] placeGreatest = new int[CLOCKS];
     private int stars;
-    private int starCare = SIGHT_CARE;
+    private int starCare = FIRST_CARE;
     private int takenBack;
     private int shipCount;
 
@@ -327,9 +328,6 @@ public final class BallDrops {
             all += weigh(ships[ship], s);
         }
         int shared = greatestDivisor(one, all);
-        if (shared <= 0) {
-            return LOST + OUTSIDE;
-        }
         return part == 0 ? one / shared : all / shared;
     }
 
@@ -502,6 +500,7 @@ public final class BallDrops {
         return -Math.floorDiv(-v, by);
     }
 
+    /** At least 1, so that it may divide whatever comes. */
     private static int greatestDivisor(int a, int b) {
         int whole = a;
         int rest = b;
@@ -511,7 +510,7 @@ public final class BallDrops {
             whole = rest;
             rest = next;
         }
-        return whole;
+        return Math.max(1, whole);
     }
 
     // ---- the ball
@@ -769,57 +768,50 @@ public final class BallDrops {
             greatest[day] = Math.min(greatest[day], to);
         }
 
-        /** Makes all spans as narrow as they want of one another; false if some has nothing left. */
+        /**
+         * Makes all spans as narrow as they want of one another; false if some has nothing left.
+         * Through any whole gain that all pairs of days leave there is a line within all spans, so that
+         * the narrower days ask nothing more of the gain: one round is all.
+         */
         private boolean narrow() {
-            // the days' spans follow from the gain's alone, and each round but the last takes some of that
-            for (int round = 0; round < 1000000; round++) {
-                boolean changed = narrowGain();
-                if (leastGain > greatestGain) {
-                    return false;
-                }
-                if (round > 0 && !changed) {
-                    return true;
-                }
-                if (!narrowDays()) {
+            for (int d = 0; d < DAYS; d++) {
+                if (least[d] > greatest[d]) {
                     return false;
                 }
             }
+            narrowGain();
+            if (leastGain > greatestGain) {
+                return false;
+            }
+            narrowDays();
             return true;
         }
 
-        private boolean narrowGain() {
-            boolean changed = false;
+        private void narrowGain() {
             for (int i = 0; i < DAYS; i++) {
                 for (int j = i + 1; j < DAYS; j++) {
                     int between = j - i;
                     int low = least[j] - greatest[i];
                     int high = greatest[j] - least[i];
+                    // most pairs ask nothing new, and a product is cheaper than two divisions
                     if (low > leastGain * between) {
                         leastGain = cutUp(low, between);
-                        changed = true;
                     }
                     if (high < greatestGain * between) {
                         greatestGain = Math.floorDiv(high, between);
-                        changed = true;
                     }
                 }
             }
-            return changed;
         }
 
         /** Once there and once back from day to neighbour day brings each day what every other one wants. */
-        private boolean narrowDays() {
+        private void narrowDays() {
             for (int d = 1; d < DAYS; d++) {
                 cut(d, least[d - 1] + leastGain, greatest[d - 1] + greatestGain);
             }
-            boolean left = true;
-            for (int d = DAYS - 1; d >= 0; d--) {
-                if (d < DAYS - 1) {
-                    cut(d, least[d + 1] - greatestGain, greatest[d + 1] - leastGain);
-                }
-                left = left && least[d] <= greatest[d];
+            for (int d = DAYS - 2; d >= 0; d--) {
+                cut(d, least[d + 1] - greatestGain, greatest[d + 1] - leastGain);
             }
-            return left;
         }
     }
 }

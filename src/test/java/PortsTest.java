@@ -154,6 +154,11 @@ public final class PortsTest {
         slippedIs(x, 5, 49, 49);
         x.set(1, 1, 5, 1, 0, 44);
         slippedIs(x, 5, -100000005, -100000005);
+        x = Scenes.rated(0, 0, 0);
+        x.set(0, 2, 5, 1, 0, 50);
+        slippedIs(x, 5, 48, 52);
+        x.set(0, 0, 5, 1, 0, -50);
+        slippedIs(x, 5, -100000005, -100000005);
     }
 
     private static void promise28Refusals() {

@@ -68,14 +68,14 @@ final class Scenes {
     /** As full, and ship 0 has as many settings and meetings as it may. */
     static void noRoomForNotes(BallDrops x) {
         full(x);
-        while (x.told(4) < 12) {
+        for (int notes = 7; notes < 12; notes++) {
             x.meet(0, 2, 9, 1000, 240);
         }
     }
 
     static void noRoomForStars(BallDrops x) {
         full(x);
-        while (x.told(0) < 20) {
+        for (int stars = 2; stars < 20; stars++) {
             x.star(2, -30);
         }
     }

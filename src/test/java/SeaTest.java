@@ -87,16 +87,25 @@ public final class SeaTest {
         BallDrops x = Scenes.rated(0, 0, 0);
         due("at first, least", x.landfall(0, 0), -1);
         due("at first, greatest", x.landfall(0, 1), 1);
-        x.clock(0, 0, 0, 4);
-        x.warm(0, 6);
-        x.warm(1, 4);
+        x.clock(0, 0, 0, 5);
+        x.warm(0, 9);
+        x.warm(1, 1);
         due("on day 0", x.weight(0, 7), 729);
-        due("reads on day 1", x.reads(0, 1, 0, 9, 9), 1);
-        due("clock 0 is 4 on then", x.weight(0, 7), 0);
-        due("reads on day 1 again", x.reads(0, 1, 4, 0, 0), 1);
+        due("reads on day 1", x.reads(0, 1, 0, 0, 0), 1);
+        due("clock 0 is 20 on then", x.weight(0, 7), 0);
+        due("reads on day 1 again", x.reads(0, 1, 20, 0, 0), 1);
         due("all as one", x.weight(0, 7), 729);
+        due("reads on day 2", x.reads(0, 2, 20, 0, 0), 1);
+        due("clock 0 is right again", x.weight(0, 7), 0);
+        due("reads a, b and c", x.reads(0, 5, 400, 800, 1200), 1);
+        for (int c = 0; c < 3; c++) {
+            faults(x, c == 0 ? 1 : 9, c == 1 ? 1 : 9, c == 2 ? 1 : 9);
+            due("by clock " + c + ", least", x.landfall(0, 0), 100 * c + 99);
+            due("by clock " + c + ", greatest", x.landfall(0, 1), 100 * c + 101);
+        }
+        faults(x, 1, 1, 1);
         due("reads at the ends", x.reads(0, 19, -99999, 99999, 0), 1);
-        due("landfall of clock 0", x.weight(0, 1), 9);
+        due("landfall by clock 0", x.landfall(0, 0), -25000);
         for (int ship : NO_SHIPS) {
             Due.refused("reads(" + ship + ")", Scenes::full, y -> y.reads(ship, 0, 100000, 0, 0), BallDrops.UNKNOWN);
         }
