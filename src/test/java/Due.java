@@ -86,6 +86,7 @@ final class Due {
             for (int e = 0; e < 2; e++) {
                 int end = e;
                 all.add(x -> x.gains(ship, clock, end));
+                all.add(x -> x.place(ship, clock, 3, 77, end));
                 for (int d = 0; d < 20; d++) {
                     int day = d;
                     all.add(x -> x.ahead(ship, clock, day, end));

@@ -1,8 +1,5 @@
 /** Promises 1 to 9: a new object; star, care, off, rate, slow, slip, back, late. */
-public final class ObservatoryTest {
-    private static final int MIN = Integer.MIN_VALUE;
-    private static final int MAX = Integer.MAX_VALUE;
-
+public final class ObservatoryTest extends Checks {
     public static void main(String[] args) {
         promise1NewObject();
         promise1ObjectsAreApart();
@@ -19,25 +16,6 @@ public final class ObservatoryTest {
         promise9Late();
         promise9LateCutsTheMiddleDown();
         Due.finish();
-    }
-
-    private static void due(String call, long got, long want) {
-        Due.due(call, got, want);
-    }
-
-    private static void offIs(BallDrops x, int day, int least, int greatest) {
-        due("off(" + day + ", 0)", x.off(day, 0), least);
-        due("off(" + day + ", 1)", x.off(day, 1), greatest);
-    }
-
-    private static void rateIs(BallDrops x, int least, int greatest) {
-        due("rate(0)", x.rate(0), least);
-        due("rate(1)", x.rate(1), greatest);
-    }
-
-    private static void lateIs(BallDrops x, int day, int least, int greatest) {
-        due("late(" + day + ", 0)", x.late(day, 0), least);
-        due("late(" + day + ", 1)", x.late(day, 1), greatest);
     }
 
     private static void promise1NewObject() {
@@ -143,16 +121,16 @@ public final class ObservatoryTest {
 
     private static void promise2Refusals() {
         for (int day : new int[] {-1, 20, MIN, MAX}) {
-            Due.refused("star(" + day + ", 0)", Scenes::full, x -> x.star(day, 0), BallDrops.UNKNOWN);
-            Due.refused("star(" + day + ", 601)", Scenes::noRoomForStars, x -> x.star(day, 601), BallDrops.UNKNOWN);
+            refused("star(" + day + ", 0)", Scenes::full, x -> x.star(day, 0), BallDrops.UNKNOWN);
+            refused("star(" + day + ", 601)", Scenes::noRoomForStars, x -> x.star(day, 601), BallDrops.UNKNOWN);
         }
         for (int off : new int[] {-601, 601, MIN, MAX}) {
-            Due.refused("star(0, " + off + ")", Scenes::full, x -> x.star(0, off), BallDrops.OUTSIDE);
-            Due.refused("star(19, " + off + ")", Scenes::noRoomForStars, x -> x.star(19, off), BallDrops.OUTSIDE);
+            refused("star(0, " + off + ")", Scenes::full, x -> x.star(0, off), BallDrops.OUTSIDE);
+            refused("star(19, " + off + ")", Scenes::noRoomForStars, x -> x.star(19, off), BallDrops.OUTSIDE);
         }
-        Due.refused("21st star", Scenes::noRoomForStars, x -> x.star(2, -30), BallDrops.FULL);
-        Due.refused("21st star, and a wrong one", Scenes::noRoomForStars, x -> x.star(2, 500), BallDrops.FULL);
-        Due.refused("star by which nothing is left", Scenes::full, x -> x.star(2, 500), BallDrops.NO);
+        refused("21st star", Scenes::noRoomForStars, x -> x.star(2, -30), BallDrops.FULL);
+        refused("21st star, and a wrong one", Scenes::noRoomForStars, x -> x.star(2, 500), BallDrops.FULL);
+        refused("star by which nothing is left", Scenes::full, x -> x.star(2, 500), BallDrops.NO);
         BallDrops x = new BallDrops();
         for (int i = 1; i <= 20; i++) {
             due("star " + i, x.star(0, 0), i);
@@ -173,7 +151,7 @@ public final class ObservatoryTest {
         due("told(2)", x.told(2), 0);
         due("care(5)", x.care(5), 0);
         for (int v : new int[] {-1, 10, MIN, MAX}) {
-            Due.refused("care(" + v + ")", Scenes::full, y -> y.care(v), BallDrops.OUTSIDE);
+            refused("care(" + v + ")", Scenes::full, y -> y.care(v), BallDrops.OUTSIDE);
         }
     }
 
@@ -185,11 +163,11 @@ public final class ObservatoryTest {
             offIs(x, d, -reach, reach);
         }
         for (int day : new int[] {-1, 20, MIN, MAX}) {
-            Due.refused("off(" + day + ", 0)", Scenes::full, y -> y.off(day, 0), -100000001);
-            Due.refused("off(" + day + ", 2)", Scenes::full, y -> y.off(day, 2), -100000001);
+            refused("off(" + day + ", 0)", Scenes::full, y -> y.off(day, 0), -100000001);
+            refused("off(" + day + ", 2)", Scenes::full, y -> y.off(day, 2), -100000001);
         }
         for (int end : new int[] {-1, 2, MIN, MAX}) {
-            Due.refused("off(0, " + end + ")", Scenes::full, y -> y.off(0, end), -100000002);
+            refused("off(0, " + end + ")", Scenes::full, y -> y.off(0, end), -100000002);
         }
     }
 
@@ -203,7 +181,7 @@ public final class ObservatoryTest {
         x.star(1, 3);
         rateIs(x, -1, 7);
         for (int end : new int[] {-1, 2, MIN, MAX}) {
-            Due.refused("rate(" + end + ")", Scenes::full, y -> y.rate(end), -100000002);
+            refused("rate(" + end + ")", Scenes::full, y -> y.rate(end), -100000002);
         }
     }
 
@@ -218,13 +196,13 @@ public final class ObservatoryTest {
         due("slow(1, 1, 1)", x.slow(1, 1, 1), 50);
         due("slow(1, 0, 0)", x.slow(1, 0, 0), 101);
         for (int which : new int[] {-1, 2, MIN, MAX}) {
-            Due.refused("slow(" + which + ", 0, 0)", Scenes::full, y -> y.slow(which, 0, 0), BallDrops.OUTSIDE);
+            refused("slow(" + which + ", 0, 0)", Scenes::full, y -> y.slow(which, 0, 0), BallDrops.OUTSIDE);
         }
         int[][] spans = {{-1, 0}, {-1, -1}, {0, 51}, {51, 51}, {1, 0}, {50, 49}, {0, -1}, {MIN, MAX}, {MAX, MIN}};
         for (int[] s : spans) {
             for (int which = 0; which < 2; which++) {
                 int w = which;
-                Due.refused("slow(" + w + ", " + s[0] + ", " + s[1] + ")", Scenes::full,
+                refused("slow(" + w + ", " + s[0] + ", " + s[1] + ")", Scenes::full,
                         y -> y.slow(w, s[0], s[1]), BallDrops.OUTSIDE);
             }
         }
@@ -242,11 +220,11 @@ public final class ObservatoryTest {
         lateIs(x, 19, 7, 7);
         due("slip(19, 8)", x.slip(19, 8), 7);
         for (int day : new int[] {-1, 20, MIN, MAX}) {
-            Due.refused("slip(" + day + ", 0)", Scenes::full, y -> y.slip(day, 0), -100000001);
-            Due.refused("slip(" + day + ", 61)", Scenes::full, y -> y.slip(day, 61), -100000001);
+            refused("slip(" + day + ", 0)", Scenes::full, y -> y.slip(day, 0), -100000001);
+            refused("slip(" + day + ", 61)", Scenes::full, y -> y.slip(day, 61), -100000001);
         }
         for (int v : new int[] {-61, 61, MIN, MAX}) {
-            Due.refused("slip(7, " + v + ")", Scenes::full, y -> y.slip(7, v), -100000002);
+            refused("slip(7, " + v + ")", Scenes::full, y -> y.slip(7, v), -100000002);
         }
     }
 
@@ -260,8 +238,8 @@ public final class ObservatoryTest {
         due("back(0, false) again", x.back(0, false), 0);
         due("told(3) then", x.told(3), 1 << 19);
         for (int day : new int[] {-1, 20, 32, MIN, MAX}) {
-            Due.refused("back(" + day + ", true)", Scenes::full, y -> y.back(day, true), BallDrops.UNKNOWN);
-            Due.refused("back(" + day + ", false)", Scenes::full, y -> y.back(day, false), BallDrops.UNKNOWN);
+            refused("back(" + day + ", true)", Scenes::full, y -> y.back(day, true), BallDrops.UNKNOWN);
+            refused("back(" + day + ", false)", Scenes::full, y -> y.back(day, false), BallDrops.UNKNOWN);
         }
     }
 
@@ -279,11 +257,11 @@ public final class ObservatoryTest {
         x.back(0, true);
         lateIs(x, 0, -6, 3);
         for (int day : new int[] {-1, 20, MIN, MAX}) {
-            Due.refused("late(" + day + ", 0)", Scenes::full, y -> y.late(day, 0), -100000001);
-            Due.refused("late(" + day + ", 2)", Scenes::full, y -> y.late(day, 2), -100000001);
+            refused("late(" + day + ", 0)", Scenes::full, y -> y.late(day, 0), -100000001);
+            refused("late(" + day + ", 2)", Scenes::full, y -> y.late(day, 2), -100000001);
         }
         for (int end : new int[] {-1, 2, MIN, MAX}) {
-            Due.refused("late(19, " + end + ")", Scenes::full, y -> y.late(19, end), -100000002);
+            refused("late(19, " + end + ")", Scenes::full, y -> y.late(19, end), -100000002);
         }
     }
 

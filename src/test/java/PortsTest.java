@@ -1,10 +1,5 @@
 /** Promises 26 to 32: suspect, worst, slipped, ask, carry, port, told. */
-public final class PortsTest {
-    private static final int MIN = Integer.MIN_VALUE;
-    private static final int MAX = Integer.MAX_VALUE;
-    private static final int[] NO_DAYS = {-1, 20, MIN, MAX};
-    private static final int[] NO_ENDS = {-1, 2, MIN, MAX};
-
+public final class PortsTest extends Checks {
     public static void main(String[] args) {
         promise26Suspect();
         promise26WhatCounts();
@@ -20,20 +15,6 @@ public final class PortsTest {
         promise31Port();
         promise32Told();
         Due.finish();
-    }
-
-    private static void due(String call, long got, long want) {
-        Due.due(call, got, want);
-    }
-
-    private static void slippedIs(BallDrops x, int day, int least, int greatest) {
-        due("slipped(" + day + ", 0)", x.slipped(day, 0), least);
-        due("slipped(" + day + ", 1)", x.slipped(day, 1), greatest);
-    }
-
-    private static void portIs(BallDrops x, int port, int least, int greatest) {
-        due("port(" + port + ", 0)", x.port(port, 0), least);
-        due("port(" + port + ", 1)", x.port(port, 1), greatest);
     }
 
     /** Clock 0 is right on days 0, 10 and 15, so that only day 5 can be wrong. */
@@ -59,7 +40,7 @@ public final class PortsTest {
         x.set(1, 2, 16, 1, 0, 70);
         due("two bad falls for one", x.suspect(5), 2);
         for (int day : NO_DAYS) {
-            Due.refused("suspect(" + day + ")", Scenes::full, y -> y.suspect(day), BallDrops.UNKNOWN);
+            refused("suspect(" + day + ")", Scenes::full, y -> y.suspect(day), BallDrops.UNKNOWN);
         }
     }
 
@@ -103,7 +84,7 @@ public final class PortsTest {
         due("the last day", x.worst(0), 19);
         due("one on the last day", x.worst(1), 1);
         for (int what : NO_ENDS) {
-            Due.refused("worst(" + what + ")", Scenes::full, y -> y.worst(what), BallDrops.OUTSIDE);
+            refused("worst(" + what + ")", Scenes::full, y -> y.worst(what), BallDrops.OUTSIDE);
         }
     }
 
@@ -163,14 +144,14 @@ public final class PortsTest {
 
     private static void promise28Refusals() {
         for (int day : NO_DAYS) {
-            Due.refused("slipped(" + day + ", 0)", Scenes::full, x -> x.slipped(day, 0), -100000001);
-            Due.refused("slipped(" + day + ", 2)", Scenes::full, x -> x.slipped(day, 2), -100000001);
+            refused("slipped(" + day + ", 0)", Scenes::full, x -> x.slipped(day, 0), -100000001);
+            refused("slipped(" + day + ", 2)", Scenes::full, x -> x.slipped(day, 2), -100000001);
         }
         for (int end : NO_ENDS) {
-            Due.refused("slipped(2, " + end + ")", Scenes::full, x -> x.slipped(2, end), -100000002);
+            refused("slipped(2, " + end + ")", Scenes::full, x -> x.slipped(2, end), -100000002);
         }
-        Due.refused("slipped(2, 0)", Scenes::full, x -> x.slipped(2, 0), -100000005);
-        Due.refused("slipped(2, 1)", Scenes::full, x -> x.slipped(2, 1), -100000005);
+        refused("slipped(2, 0)", Scenes::full, x -> x.slipped(2, 0), -100000005);
+        refused("slipped(2, 1)", Scenes::full, x -> x.slipped(2, 1), -100000005);
     }
 
     private static void promise29Ask() {
@@ -194,7 +175,7 @@ public final class PortsTest {
         due("day 6, as far from both", x.ask(6), 0);
         due("day 5", x.ask(5), 12);
         for (int day : NO_DAYS) {
-            Due.refused("ask(" + day + ")", Scenes::full, y -> y.ask(day), BallDrops.UNKNOWN);
+            refused("ask(" + day + ")", Scenes::full, y -> y.ask(day), BallDrops.UNKNOWN);
         }
     }
 
@@ -242,21 +223,21 @@ public final class PortsTest {
 
     private static void promise30Refusals() {
         for (int bad : new int[] {-1, 4, MIN, MAX}) {
-            Due.refused("carry to " + bad, Scenes::full, x -> x.carry(bad, 0, 1, 0, 10000), BallDrops.UNKNOWN);
-            Due.refused("carry on day " + bad, Scenes::full, x -> x.carry(0, 0, 1, bad == 4 ? 20 : bad, 10000),
+            refused("carry to " + bad, Scenes::full, x -> x.carry(bad, 0, 1, 0, 10000), BallDrops.UNKNOWN);
+            refused("carry on day " + bad, Scenes::full, x -> x.carry(0, 0, 1, bad == 4 ? 20 : bad, 10000),
                     BallDrops.UNKNOWN);
-            Due.refused("carry by clock " + bad, Scenes::full, x -> x.carry(0, 0, bad == 4 ? 3 : bad, 0, 10000),
+            refused("carry by clock " + bad, Scenes::full, x -> x.carry(0, 0, bad == 4 ? 3 : bad, 0, 10000),
                     BallDrops.UNKNOWN);
-            Due.refused("carry by ship " + bad, Scenes::full, x -> x.carry(0, bad == 4 ? 2 : bad, 0, 0, 10000),
+            refused("carry by ship " + bad, Scenes::full, x -> x.carry(0, bad == 4 ? 2 : bad, 0, 0, 10000),
                     BallDrops.UNKNOWN);
         }
         for (int shows : new int[] {-10000, 10000, MIN, MAX}) {
-            Due.refused("carry, shows " + shows, Scenes::full, x -> x.carry(0, 0, 0, 0, shows), BallDrops.OUTSIDE);
-            Due.refused("carry by one that jumped, shows " + shows, Scenes::full,
+            refused("carry, shows " + shows, Scenes::full, x -> x.carry(0, 0, 0, 0, shows), BallDrops.OUTSIDE);
+            refused("carry by one that jumped, shows " + shows, Scenes::full,
                     x -> x.carry(0, 0, 1, 0, shows), BallDrops.OUTSIDE);
         }
-        Due.refused("carry by one that jumped", Scenes::full, x -> x.carry(0, 0, 1, 0, 5), BallDrops.STATE);
-        Due.refused("carry by which nothing is left", Scenes::full, x -> x.carry(0, 0, 0, 14, 900), BallDrops.NO);
+        refused("carry by one that jumped", Scenes::full, x -> x.carry(0, 0, 1, 0, 5), BallDrops.STATE);
+        refused("carry by which nothing is left", Scenes::full, x -> x.carry(0, 0, 0, 14, 900), BallDrops.NO);
     }
 
     private static void promise31Port() {
@@ -267,11 +248,11 @@ public final class PortsTest {
             portIs(x, p, 100 * p - 3, 100 * p + 3);
         }
         for (int bad : new int[] {-1, 4, MIN, MAX}) {
-            Due.refused("port(" + bad + ", 0)", Scenes::full, y -> y.port(bad, 0), -100000001);
-            Due.refused("port(" + bad + ", 2)", Scenes::full, y -> y.port(bad, 2), -100000001);
+            refused("port(" + bad + ", 0)", Scenes::full, y -> y.port(bad, 0), -100000001);
+            refused("port(" + bad + ", 2)", Scenes::full, y -> y.port(bad, 2), -100000001);
         }
         for (int end : NO_ENDS) {
-            Due.refused("port(0, " + end + ")", Scenes::full, y -> y.port(0, end), -100000002);
+            refused("port(0, " + end + ")", Scenes::full, y -> y.port(0, end), -100000002);
         }
     }
 
@@ -294,7 +275,7 @@ public final class PortsTest {
         }
         due("all taken back", x.told(3), (1 << 20) - 1);
         for (int what : new int[] {-1, 8, MIN, MAX}) {
-            Due.refused("told(" + what + ")", Scenes::full, y -> y.told(what), BallDrops.OUTSIDE);
+            refused("told(" + what + ")", Scenes::full, y -> y.told(what), BallDrops.OUTSIDE);
         }
     }
 }

@@ -1,9 +1,6 @@
 /** Promises 20 to 25: place, reads, weight, odds, best, landfall. */
-public final class SeaTest {
-    private static final int MIN = Integer.MIN_VALUE;
-    private static final int MAX = Integer.MAX_VALUE;
+public final class SeaTest extends Checks {
     private static final int[] NO_SHIPS = {-1, 2, 4, MIN, MAX};
-    private static final int[] NO_ENDS = {-1, 2, MIN, MAX};
 
     public static void main(String[] args) {
         promise20Place();
@@ -17,33 +14,6 @@ public final class SeaTest {
         promise24BestOfSeveral();
         promise25Landfall();
         Due.finish();
-    }
-
-    private static void due(String call, long got, long want) {
-        Due.due(call, got, want);
-    }
-
-    private static void placeIs(BallDrops x, int clock, int day, int read, int least, int greatest) {
-        String call = "place(0, " + clock + ", " + day + ", " + read + ", ";
-        due(call + "0)", x.place(0, clock, day, read, 0), least);
-        due(call + "1)", x.place(0, clock, day, read, 1), greatest);
-    }
-
-    private static void weightsAre(BallDrops x, int... want) {
-        for (int set = 0; set < 8; set++) {
-            due("weight(0, " + set + ")", x.weight(0, set), want[set]);
-        }
-    }
-
-    private static void oddsAre(BallDrops x, int set, int upper, int lower) {
-        due("odds(0, " + set + ", 0)", x.odds(0, set, 0), upper);
-        due("odds(0, " + set + ", 1)", x.odds(0, set, 1), lower);
-    }
-
-    private static void faults(BallDrops x, int a, int b, int c) {
-        x.clock(0, 0, 1, a);
-        x.clock(0, 1, 1, b);
-        x.clock(0, 2, 1, c);
     }
 
     private static void promise20Place() {
@@ -65,22 +35,22 @@ public final class SeaTest {
 
     private static void promise20Refusals() {
         for (int ship : NO_SHIPS) {
-            Due.refused("place(" + ship + ")", Scenes::full, x -> x.place(ship, 0, 0, 100000, 2), -100000001);
+            refused("place(" + ship + ")", Scenes::full, x -> x.place(ship, 0, 0, 100000, 2), -100000001);
         }
         for (int bad : new int[] {-1, 3, MIN, MAX}) {
-            Due.refused("place by clock " + bad, Scenes::full, x -> x.place(0, bad, 0, 100000, 2), -100000001);
+            refused("place by clock " + bad, Scenes::full, x -> x.place(0, bad, 0, 100000, 2), -100000001);
         }
         for (int bad : new int[] {-1, 20, MIN, MAX}) {
-            Due.refused("place on " + bad, Scenes::full, x -> x.place(0, 1, bad, 100000, 2), -100000001);
+            refused("place on " + bad, Scenes::full, x -> x.place(0, 1, bad, 100000, 2), -100000001);
         }
         for (int bad : new int[] {-100000, 100000, MIN, MAX}) {
-            Due.refused("place, read " + bad, Scenes::full, x -> x.place(0, 0, 0, bad, 0), -100000002);
-            Due.refused("place of one that jumped, read " + bad, Scenes::full, x -> x.place(0, 1, 0, bad, 0), -100000002);
+            refused("place, read " + bad, Scenes::full, x -> x.place(0, 0, 0, bad, 0), -100000002);
+            refused("place of one that jumped, read " + bad, Scenes::full, x -> x.place(0, 1, 0, bad, 0), -100000002);
         }
         for (int bad : NO_ENDS) {
-            Due.refused("place, end " + bad, Scenes::full, x -> x.place(0, 1, 0, 0, bad), -100000002);
+            refused("place, end " + bad, Scenes::full, x -> x.place(0, 1, 0, 0, bad), -100000002);
         }
-        Due.refused("place of one that jumped", Scenes::full, x -> x.place(0, 1, 0, 0, 1), -100000003);
+        refused("place of one that jumped", Scenes::full, x -> x.place(0, 1, 0, 0, 1), -100000003);
     }
 
     private static void promise21Reads() {
@@ -107,15 +77,15 @@ public final class SeaTest {
         due("reads at the ends", x.reads(0, 19, -99999, 99999, 0), 1);
         due("landfall by clock 0", x.landfall(0, 0), -25000);
         for (int ship : NO_SHIPS) {
-            Due.refused("reads(" + ship + ")", Scenes::full, y -> y.reads(ship, 0, 100000, 0, 0), BallDrops.UNKNOWN);
+            refused("reads(" + ship + ")", Scenes::full, y -> y.reads(ship, 0, 100000, 0, 0), BallDrops.UNKNOWN);
         }
         for (int day : new int[] {-1, 20, MIN, MAX}) {
-            Due.refused("reads on " + day, Scenes::full, y -> y.reads(0, day, 0, 100000, 0), BallDrops.UNKNOWN);
+            refused("reads on " + day, Scenes::full, y -> y.reads(0, day, 0, 100000, 0), BallDrops.UNKNOWN);
         }
         for (int v : new int[] {-100000, 100000, MIN, MAX}) {
-            Due.refused("reads a " + v, Scenes::full, y -> y.reads(0, 3, v, 1, 2), BallDrops.OUTSIDE);
-            Due.refused("reads b " + v, Scenes::full, y -> y.reads(0, 3, 1, v, 2), BallDrops.OUTSIDE);
-            Due.refused("reads c " + v, Scenes::full, y -> y.reads(0, 3, 1, 2, v), BallDrops.OUTSIDE);
+            refused("reads a " + v, Scenes::full, y -> y.reads(0, 3, v, 1, 2), BallDrops.OUTSIDE);
+            refused("reads b " + v, Scenes::full, y -> y.reads(0, 3, 1, v, 2), BallDrops.OUTSIDE);
+            refused("reads c " + v, Scenes::full, y -> y.reads(0, 3, 1, 2, v), BallDrops.OUTSIDE);
         }
     }
 
@@ -152,18 +122,18 @@ public final class SeaTest {
 
     private static void promise22Refusals() {
         for (int ship : NO_SHIPS) {
-            Due.refused("weight(" + ship + ")", Scenes::full, x -> x.weight(ship, 8), BallDrops.UNKNOWN);
-            Due.refused("odds(" + ship + ")", Scenes::full, x -> x.odds(ship, 8, 2), -1000000000000000001L);
-            Due.refused("best(" + ship + ")", Scenes::full, x -> x.best(ship), BallDrops.UNKNOWN);
-            Due.refused("landfall(" + ship + ")", Scenes::full, x -> x.landfall(ship, 2), -100000001);
+            refused("weight(" + ship + ")", Scenes::full, x -> x.weight(ship, 8), BallDrops.UNKNOWN);
+            refused("odds(" + ship + ")", Scenes::full, x -> x.odds(ship, 8, 2), -1000000000000000001L);
+            refused("best(" + ship + ")", Scenes::full, x -> x.best(ship), BallDrops.UNKNOWN);
+            refused("landfall(" + ship + ")", Scenes::full, x -> x.landfall(ship, 2), -100000001);
         }
         for (int set : new int[] {-1, 8, MIN, MAX}) {
-            Due.refused("weight(0, " + set + ")", Scenes::full, x -> x.weight(0, set), BallDrops.OUTSIDE);
-            Due.refused("odds(0, " + set + ", 0)", Scenes::full, x -> x.odds(0, set, 0), -1000000000000000002L);
+            refused("weight(0, " + set + ")", Scenes::full, x -> x.weight(0, set), BallDrops.OUTSIDE);
+            refused("odds(0, " + set + ", 0)", Scenes::full, x -> x.odds(0, set, 0), -1000000000000000002L);
         }
         for (int part : NO_ENDS) {
-            Due.refused("odds(0, 0, " + part + ")", Scenes::full, x -> x.odds(0, 0, part), -1000000000000000002L);
-            Due.refused("landfall(0, " + part + ")", Scenes::full, x -> x.landfall(0, part), -100000002);
+            refused("odds(0, 0, " + part + ")", Scenes::full, x -> x.odds(0, 0, part), -1000000000000000002L);
+            refused("landfall(0, " + part + ")", Scenes::full, x -> x.landfall(0, part), -100000002);
         }
     }
 

@@ -1,11 +1,8 @@
 /** Promises 10 to 19: ship, set, meet, strike, saw, clock, warm, jumped, ahead, gains. */
-public final class ShipsTest {
-    private static final int MIN = Integer.MIN_VALUE;
-    private static final int MAX = Integer.MAX_VALUE;
+public final class ShipsTest extends Checks {
     /** What is no ship and what is no clock, where there are two ships. */
     private static final int[][] NO_CLOCKS = {{-1, 0}, {2, 0}, {4, 0}, {MIN, 0}, {MAX, 0},
         {0, -1}, {0, 3}, {1, MIN}, {1, MAX}};
-    private static final int[] NO_DAYS = {-1, 20, MIN, MAX};
 
     public static void main(String[] args) {
         promise10Ship();
@@ -27,22 +24,6 @@ public final class ShipsTest {
         Due.finish();
     }
 
-    private static void due(String call, long got, long want) {
-        Due.due(call, got, want);
-    }
-
-    private static void aheadIs(BallDrops x, int ship, int clock, int day, int least, int greatest) {
-        String call = "ahead(" + ship + ", " + clock + ", " + day + ", ";
-        due(call + "0)", x.ahead(ship, clock, day, 0), least);
-        due(call + "1)", x.ahead(ship, clock, day, 1), greatest);
-    }
-
-    private static void gainsIs(BallDrops x, int ship, int clock, int least, int greatest) {
-        String call = "gains(" + ship + ", " + clock + ", ";
-        due(call + "0)", x.gains(ship, clock, 0), least);
-        due(call + "1)", x.gains(ship, clock, 1), greatest);
-    }
-
     private static void promise10Ship() {
         BallDrops x = new BallDrops();
         for (int s = 0; s < 4; s++) {
@@ -51,7 +32,7 @@ public final class ShipsTest {
             due("told(1)", x.told(1), s + 1);
             due("ship " + s, x.jumped(s, 2), 0);
         }
-        Due.refused("fifth ship()", Scenes::noRoomForShips, BallDrops::ship, BallDrops.FULL);
+        refused("fifth ship()", Scenes::noRoomForShips, BallDrops::ship, BallDrops.FULL);
     }
 
     private static void promise11SetTellsAhead() {
@@ -114,21 +95,21 @@ public final class ShipsTest {
 
     private static void promise11Refusals() {
         for (int[] c : NO_CLOCKS) {
-            Due.refused("set(" + c[0] + ", " + c[1] + ")", Scenes::noRoomForNotes,
+            refused("set(" + c[0] + ", " + c[1] + ")", Scenes::noRoomForNotes,
                     x -> x.set(c[0], c[1], 0, 3, 0, 0), BallDrops.UNKNOWN);
         }
         for (int day : NO_DAYS) {
-            Due.refused("set on " + day, Scenes::noRoomForNotes, x -> x.set(0, 0, day, 0, 1, 10000), BallDrops.UNKNOWN);
+            refused("set on " + day, Scenes::noRoomForNotes, x -> x.set(0, 0, day, 0, 1, 10000), BallDrops.UNKNOWN);
         }
         int[][] outside = {{-1, 0, 0}, {3, 0, 0}, {MIN, 0, 0}, {MAX, 0, 0}, {0, 1, 0}, {0, -1, 0}, {1, 1, 0}, {1, 30, 0},
             {2, -1, 0}, {2, 31, 0}, {2, MIN, 0}, {2, MAX, 0}, {0, 0, 10000}, {1, 0, -10000}, {2, 30, MIN}, {2, 0, MAX}};
         for (int[] o : outside) {
             String call = "set(1, 0, 0, " + o[0] + ", " + o[1] + ", " + o[2] + ")";
-            Due.refused(call, Scenes::full, x -> x.set(1, 0, 0, o[0], o[1], o[2]), BallDrops.OUTSIDE);
-            Due.refused(call + " without room", Scenes::noRoomForNotes,
+            refused(call, Scenes::full, x -> x.set(1, 0, 0, o[0], o[1], o[2]), BallDrops.OUTSIDE);
+            refused(call + " without room", Scenes::noRoomForNotes,
                     x -> x.set(0, 0, 0, o[0], o[1], o[2]), BallDrops.OUTSIDE);
         }
-        Due.refused("a 13th note", Scenes::noRoomForNotes, x -> x.set(0, 0, 0, 2, 30, 0), BallDrops.FULL);
+        refused("a 13th note", Scenes::noRoomForNotes, x -> x.set(0, 0, 0, 2, 30, 0), BallDrops.FULL);
     }
 
     private static void promise12Meet() {
@@ -162,20 +143,20 @@ public final class ShipsTest {
 
     private static void promise12Refusals() {
         for (int[] c : NO_CLOCKS) {
-            Due.refused("meet(" + c[0] + ", " + c[1] + ")", Scenes::noRoomForNotes,
+            refused("meet(" + c[0] + ", " + c[1] + ")", Scenes::noRoomForNotes,
                     x -> x.meet(c[0], c[1], 0, 100000, 0), BallDrops.UNKNOWN);
         }
         for (int day : NO_DAYS) {
-            Due.refused("meet on " + day, Scenes::noRoomForNotes, x -> x.meet(0, 0, day, 0, 10000), BallDrops.UNKNOWN);
+            refused("meet on " + day, Scenes::noRoomForNotes, x -> x.meet(0, 0, day, 0, 10000), BallDrops.UNKNOWN);
         }
         int[][] outside = {{100000, 0}, {-100000, 0}, {MIN, 0}, {MAX, 0}, {0, 10000}, {0, -10000}, {0, MIN}, {0, MAX}};
         for (int[] o : outside) {
             String call = "meet(0, 0, 0, " + o[0] + ", " + o[1] + ")";
-            Due.refused(call, Scenes::full, x -> x.meet(0, 0, 0, o[0], o[1]), BallDrops.OUTSIDE);
-            Due.refused(call + " without room", Scenes::noRoomForNotes,
+            refused(call, Scenes::full, x -> x.meet(0, 0, 0, o[0], o[1]), BallDrops.OUTSIDE);
+            refused(call + " without room", Scenes::noRoomForNotes,
                     x -> x.meet(0, 0, 0, o[0], o[1]), BallDrops.OUTSIDE);
         }
-        Due.refused("a 13th note", Scenes::noRoomForNotes, x -> x.meet(0, 2, 9, 1000, 240), BallDrops.FULL);
+        refused("a 13th note", Scenes::noRoomForNotes, x -> x.meet(0, 2, 9, 1000, 240), BallDrops.FULL);
     }
 
     private static void promise13Strike() {
@@ -199,9 +180,9 @@ public final class ShipsTest {
         aheadIs(x, 1, 0, 0, 6, 8);
         due("told(5)", x.told(5), 1);
         for (int ship : new int[] {-1, 2, 4, MIN, MAX}) {
-            Due.refused("strike(" + ship + ")", Scenes::full, y -> y.strike(ship), BallDrops.UNKNOWN);
+            refused("strike(" + ship + ")", Scenes::full, y -> y.strike(ship), BallDrops.UNKNOWN);
         }
-        Due.refused("strike of a ship without notes", Scenes::noRoomForShips, y -> y.strike(3), BallDrops.NO);
+        refused("strike of a ship without notes", Scenes::noRoomForShips, y -> y.strike(3), BallDrops.NO);
     }
 
     private static void promise14Saw() {
@@ -230,10 +211,10 @@ public final class ShipsTest {
         due("saw(1, 19, false)", x.saw(1, 19, false), 1);
         due("saw(1, 19, false) again", x.saw(1, 19, false), 0);
         for (int ship : new int[] {-1, 2, 4, MIN, MAX}) {
-            Due.refused("saw(" + ship + ", 0)", Scenes::full, y -> y.saw(ship, 0, true), BallDrops.UNKNOWN);
+            refused("saw(" + ship + ", 0)", Scenes::full, y -> y.saw(ship, 0, true), BallDrops.UNKNOWN);
         }
         for (int day : NO_DAYS) {
-            Due.refused("saw(1, " + day + ")", Scenes::full, y -> y.saw(1, day, true), BallDrops.UNKNOWN);
+            refused("saw(1, " + day + ")", Scenes::full, y -> y.saw(1, day, true), BallDrops.UNKNOWN);
         }
     }
 
@@ -254,13 +235,13 @@ public final class ShipsTest {
         gainsIs(x, 0, 0, 2, 4);
         aheadIs(x, 0, 0, 1, 1, 5);
         for (int[] c : NO_CLOCKS) {
-            Due.refused("clock(" + c[0] + ", " + c[1] + ")", Scenes::full,
+            refused("clock(" + c[0] + ", " + c[1] + ")", Scenes::full,
                     y -> y.clock(c[0], c[1], 2, 0), BallDrops.UNKNOWN);
         }
         int[][] outside = {{-1, 1}, {2, 1}, {MIN, 1}, {MAX, 1}, {0, -1}, {0, 6}, {0, MIN}, {0, MAX},
             {1, 0}, {1, 10}, {1, MIN}, {1, MAX}};
         for (int[] o : outside) {
-            Due.refused("clock(0, 0, " + o[0] + ", " + o[1] + ")", Scenes::full,
+            refused("clock(0, 0, " + o[0] + ", " + o[1] + ")", Scenes::full,
                     y -> y.clock(0, 0, o[0], o[1]), BallDrops.OUTSIDE);
         }
     }
@@ -287,11 +268,11 @@ public final class ShipsTest {
         due("warm(19, 9)", x.warm(19, 9), 5);
         due("warm(19, 1)", x.warm(19, 1), 9);
         for (int day : NO_DAYS) {
-            Due.refused("warm(" + day + ", 0)", Scenes::full, y -> y.warm(day, 0), BallDrops.UNKNOWN);
-            Due.refused("warm(" + day + ", 10)", Scenes::full, y -> y.warm(day, 10), BallDrops.UNKNOWN);
+            refused("warm(" + day + ", 0)", Scenes::full, y -> y.warm(day, 0), BallDrops.UNKNOWN);
+            refused("warm(" + day + ", 10)", Scenes::full, y -> y.warm(day, 10), BallDrops.UNKNOWN);
         }
         for (int v : new int[] {-1, 10, MIN, MAX}) {
-            Due.refused("warm(0, " + v + ")", Scenes::full, y -> y.warm(0, v), BallDrops.OUTSIDE);
+            refused("warm(0, " + v + ")", Scenes::full, y -> y.warm(0, v), BallDrops.OUTSIDE);
         }
     }
 
@@ -317,7 +298,7 @@ public final class ShipsTest {
         x.set(1, 1, 1, 1, 0, 102);
         due("gains 100", x.jumped(1, 1), 1);
         for (int[] c : NO_CLOCKS) {
-            Due.refused("jumped(" + c[0] + ", " + c[1] + ")", Scenes::full, y -> y.jumped(c[0], c[1]), BallDrops.UNKNOWN);
+            refused("jumped(" + c[0] + ", " + c[1] + ")", Scenes::full, y -> y.jumped(c[0], c[1]), BallDrops.UNKNOWN);
         }
     }
 
@@ -334,15 +315,15 @@ public final class ShipsTest {
         aheadIs(x, 0, 1, 4, -100000003, -100000003);
         due("outside before jumped", x.ahead(0, 1, 4, 2), -100000002);
         for (int[] c : NO_CLOCKS) {
-            Due.refused("ahead(" + c[0] + ", " + c[1] + ")", Scenes::full, y -> y.ahead(c[0], c[1], 0, 2), -100000001);
+            refused("ahead(" + c[0] + ", " + c[1] + ")", Scenes::full, y -> y.ahead(c[0], c[1], 0, 2), -100000001);
         }
         for (int day : NO_DAYS) {
-            Due.refused("ahead on " + day, Scenes::full, y -> y.ahead(0, 1, day, 2), -100000001);
+            refused("ahead on " + day, Scenes::full, y -> y.ahead(0, 1, day, 2), -100000001);
         }
         for (int end : new int[] {-1, 2, MIN, MAX}) {
-            Due.refused("ahead, end " + end, Scenes::full, y -> y.ahead(0, 1, 0, end), -100000002);
+            refused("ahead, end " + end, Scenes::full, y -> y.ahead(0, 1, 0, end), -100000002);
         }
-        Due.refused("ahead of one that jumped", Scenes::full, y -> y.ahead(0, 1, 0, 0), -100000003);
+        refused("ahead of one that jumped", Scenes::full, y -> y.ahead(0, 1, 0, 0), -100000003);
     }
 
     private static void promise19Gains() {
@@ -358,12 +339,12 @@ public final class ShipsTest {
         gainsIs(x, 0, 2, -100000003, -100000003);
         due("outside before jumped", x.gains(0, 2, -1), -100000002);
         for (int[] c : NO_CLOCKS) {
-            Due.refused("gains(" + c[0] + ", " + c[1] + ")", Scenes::full, y -> y.gains(c[0], c[1], 2), -100000001);
+            refused("gains(" + c[0] + ", " + c[1] + ")", Scenes::full, y -> y.gains(c[0], c[1], 2), -100000001);
         }
         for (int end : new int[] {-1, 2, MIN, MAX}) {
-            Due.refused("gains, end " + end, Scenes::full, y -> y.gains(0, 1, end), -100000002);
+            refused("gains, end " + end, Scenes::full, y -> y.gains(0, 1, end), -100000002);
         }
-        Due.refused("gains of one that jumped", Scenes::full, y -> y.gains(0, 1, 1), -100000003);
+        refused("gains of one that jumped", Scenes::full, y -> y.gains(0, 1, 1), -100000003);
     }
 
     /** 99995 ahead on day 0 and no more than 99999 on day 19 leave no rate above 0; 20 by a hot day none above -16. */
