@@ -1,7 +1,10 @@
+import java.io.IOException;
 import java.lang.reflect.Field;
 import java.lang.reflect.Member;
 import java.lang.reflect.Method;
 import java.lang.reflect.Modifier;
+import java.nio.file.Files;
+import java.nio.file.Path;
 import java.util.ArrayList;
 import java.util.Arrays;
 import java.util.List;
@@ -20,11 +23,16 @@ public final class FaceTest {
     private static final String[] CONSTANTS = {
         "int NONE", "int UNKNOWN", "int OUTSIDE", "int STATE", "int FULL", "int NO", "int GONE", "long LOST"};
 
-    public static void main(String[] args) {
+    /** What stands ahead of which calls, by the number of the first of them. */
+    private static final Object[][] HEADINGS = {{0, "---- 1 the observatory"}, {8, "---- 2 ships, clocks"},
+        {18, "---- 3 at sea"}, {24, "---- 4 bad falls, ports"}};
+
+    public static void main(String[] args) throws IOException {
         constants();
         classItself();
         methods();
         fields();
+        headings();
         Due.finish();
     }
 
@@ -82,6 +90,27 @@ public final class FaceTest {
             }
         }
         same("constants", open, CONSTANTS);
+    }
+
+    /** The calls stand in the document's order, each part under its heading. */
+    private static void headings() throws IOException {
+        String text = Files.readString(Path.of("src/main/java/BallDrops.java"));
+        int at = text.indexOf("public BallDrops()");
+        int heading = 0;
+        for (int m = 0; m < METHODS.length; m++) {
+            if (heading < HEADINGS.length && HEADINGS[heading][0].equals(m)) {
+                at = next(text, "// " + HEADINGS[heading][1] + "\n", at);
+                heading++;
+            }
+            at = next(text, "    public " + METHODS[m].substring(0, METHODS[m].indexOf('(') + 1), at);
+        }
+        Due.due("headings", heading, HEADINGS.length);
+    }
+
+    private static int next(String text, String what, int from) {
+        int at = text.indexOf(what, from);
+        Due.due("after what comes before it: " + what, at >= 0 ? 1 : 0, 1);
+        return Math.max(at, from);
     }
 
     private static boolean isOpen(Member m) {
